@@ -1,0 +1,117 @@
+import java.io.IOException;
+import java.lang.reflect.Field;
+import java.lang.reflect.Method;
+import java.lang.reflect.Modifier;
+import java.nio.file.Files;
+import java.nio.file.Path;
+import java.util.Arrays;
+import java.util.List;
+import java.util.Set;
+import java.util.TreeSet;
+import java.util.regex.Matcher;
+import java.util.regex.Pattern;
+
+/** The rules of ../shared/LANGUAGE.md that can be seen from outside, by their numbers. */
+public final class LanguageTest {
+    private static final String FACE = "machine(int,int,int,int) drum(int,int) remove(int) told(int,int) wish(int,int,int) "
+            + "trace(int) touches(int,int) program(int,int) takeOut(int) step(int,int,int,int) minutes(int) tube(int,int,int) "
+            + "coin(int,int,int) pay(int) refund(int) given(int) coins(int,int) credit(int) load(int,int,int) "
+            + "mix(int,int,boolean) put(int,int) fetch(int) about(int,int) share(int,int) start(int,int) minute(int) "
+            + "left(int) stop(int) breaks(int,int) mend(int) bound(int,int,int) used(int) book(int,int) cost(int,int) "
+            + "count(int) back(int) digest() status()";
+    private static final Check CHECK = new Check();
+
+    public static void main(String[] args) throws IOException {
+        face();
+        classes();
+        source(Files.readString(Path.of("src/main/java/WashHouse.java")));
+        CHECK.end();
+    }
+
+    private static void yes(String rule, boolean holds) {
+        CHECK.due("rule " + rule, holds ? 1 : 0, 1);
+    }
+
+    private static void face() {
+        Set<String> due = new TreeSet<>(Arrays.asList(FACE.split(" ")));
+        Set<String> seen = new TreeSet<>();
+        Set<String> publicNames = new TreeSet<>();
+        for (Method method : WashHouse.class.getDeclaredMethods()) {
+            String types = Arrays.toString(method.getParameterTypes()).replaceAll("[\\[\\] ]", "");
+            if (!Modifier.isPrivate(method.getModifiers())) {
+                seen.add(method.getName() + "(" + types + ")");
+                publicNames.add(method.getName());
+            }
+        }
+        yes("1: the face " + seen, seen.equals(due));
+        for (Method method : WashHouse.class.getDeclaredMethods()) {
+            yes("1: private " + method.getName(), !Modifier.isPrivate(method.getModifiers()) || !publicNames.contains(method.getName()));
+            Class<?> answer = method.getName().equals("digest") ? long.class : int.class;
+            yes("1: " + method.getName(), Modifier.isPrivate(method.getModifiers()) || method.getReturnType() == answer);
+        }
+        List<String> constants = List.of("UNKNOWN", "OUTSIDE", "STATE", "FULL", "NONE");
+        for (Field field : WashHouse.class.getDeclaredFields()) {
+            yes("1: " + field.getName(), Modifier.isPrivate(field.getModifiers()) != constants.contains(field.getName()));
+        }
+        yes("1: public and final", Modifier.isPublic(WashHouse.class.getModifiers()) && Modifier.isFinal(WashHouse.class.getModifiers()));
+        yes("1: one constructor", WashHouse.class.getDeclaredConstructors().length == 1 && WashHouse.class.getConstructors().length == 1);
+    }
+
+    private static void classes() {
+        Class<?>[] inside = WashHouse.class.getDeclaredClasses();
+        yes("11: classes", inside.length < 12);
+        for (Class<?> type : inside) {
+            yes("1: " + type, Modifier.isStatic(type.getModifiers()) && !Modifier.isPublic(type.getModifiers()));
+            fields(type);
+        }
+        fields(WashHouse.class);
+    }
+
+    private static void fields(Class<?> type) {
+        int own = 0;
+        for (Field field : type.getDeclaredFields()) {
+            boolean isStatic = Modifier.isStatic(field.getModifiers());
+            own += isStatic ? 0 : 1;
+            yes("5: " + field, !isStatic || Modifier.isFinal(field.getModifiers()));
+        }
+        yes("11: fields of " + type, own <= 20);
+        for (Method method : type.getDeclaredMethods()) {
+            yes("11: " + method, method.getParameterCount() <= 7);
+        }
+    }
+
+    private static void source(String text) {
+        String code = text.replaceAll("(?s)/\\*.*?\\*/", "").replaceAll("//.*", "");
+        yes("3: characters", text.chars().allMatch(c -> c < 128));
+        for (String word : List.of("throw", "throws", "try", "catch", "finally", "synchronized", "assert", "package",
+                "protected", "volatile", "native", "Object", "String", "System\\.(?!arraycopy)\\w+", "Thread", "var",
+                "equals", "hashCode", "toString", "getClass", "\\w+Exact")) {
+            yes("4, 6, 13: " + word, !Pattern.compile("\\b" + word + "\\b").matcher(code).find());
+        }
+        yes("2: lambdas and method references", !code.contains("->") && !code.contains("::"));
+        yes("4: annotations", !code.contains("@"));
+        Matcher imports = Pattern.compile("import ([^;]+);").matcher(code);
+        while (imports.find()) {
+            yes("4: " + imports.group(1), imports.group(1).equals("java.util.Arrays"));
+        }
+        Matcher library = Pattern.compile("\\b(Math|Arrays|Integer|Long)\\.(\\w+)").matcher(code);
+        while (library.find()) {
+            yes("4: " + library.group(), List.of("min", "max", "floorMod", "copyOf", "fill").contains(library.group(2)));
+        }
+        methodLengths(code);
+    }
+
+    private static void methodLengths(String code) {
+        int began = 0;
+        String[] lines = code.split("\n");
+        for (int i = 0; i < lines.length; i++) {
+            if (lines[i].matches(" {4}( {4})?[\\w\\[\\]].*\\) \\{")) {
+                began = i;
+            }
+            if (lines[i].matches(" {4}( {4})?\\}")) {
+                yes("11: the length of" + lines[began], i - began <= 60);
+                began = i;
+            }
+        }
+    }
+}
