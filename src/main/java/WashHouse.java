@@ -270,7 +270,8 @@ public final class WashHouse {
             return found(NO_PROGRAM);
         }
         int sum = 0;
-        for (int i = 0; i < lengthOf(p); i++) {
+        int length = lengthOf(p);
+        for (int i = 0; i < length; i++) {
             sum += minutesOf(cells.get(stepCell(p, i)));
         }
         return sum;
@@ -542,7 +543,8 @@ public final class WashHouse {
         }
         // A wish alone is held against the bounds here, not what others take.
         Arrays.fill(went, 0);
-        for (int i = 0; i < lengthOf(p); i++) {
+        int length = lengthOf(p);
+        for (int i = 0; i < length; i++) {
             int step = kindOf(cells.get(stepCell(p, i)));
             if (!kindAt(place).canDo(step)) {
                 return NOT_THAT_MACHINE;
@@ -836,7 +838,8 @@ public final class WashHouse {
         for (int k = 0; k < TUBES; k++) {
             h = h * 31 + cells.get(ALL_COINS + k);
         }
-        for (int load = 0; load < cells.get(LOAD_COUNT); load++) {
+        int loads = cells.get(LOAD_COUNT);
+        for (int load = 0; load < loads; load++) {
             h = h * 31 + cells.get(loadCell(load, WHERE));
         }
         return h;
@@ -910,14 +913,16 @@ public final class WashHouse {
 
     private int weightInside(int place) {
         int sum = 0;
-        for (int i = 0; i < read(place, LOADS); i++) {
+        int loads = read(place, LOADS);
+        for (int i = 0; i < loads; i++) {
             sum += cells.get(loadCell(read(place, INSIDE + i), WEIGHT));
         }
         return sum;
     }
 
     private boolean mixesInside(int place, int colour) {
-        for (int i = 0; i < read(place, LOADS); i++) {
+        int loads = read(place, LOADS);
+        for (int i = 0; i < loads; i++) {
             if (!mayMix(colour, cells.get(loadCell(read(place, INSIDE + i), COLOUR)))) {
                 return false;
             }
@@ -948,7 +953,8 @@ public final class WashHouse {
 
     private int minutesLeft(int place) {
         int sum = read(place, STEP_LEFT);
-        for (int i = read(place, STEP_AT) + 1; i < read(place, STEPS); i++) {
+        int steps = read(place, STEPS);
+        for (int i = read(place, STEP_AT) + 1; i < steps; i++) {
             sum += minutesOf(read(place, RUN_STEPS + i));
         }
         return sum;
@@ -1284,7 +1290,7 @@ public final class WashHouse {
         /** Coins are added by lots of 1, 2, 4 and so on: any number of them is a sum of lots. */
         private static void addTube(int[] row, int value, int coins, int amount) {
             int rest = mostOf(value, coins, amount);
-            for (int lot = 1; rest > 0; lot *= 2) {
+            for (int lot = 1; rest > 0 && lot <= MOST_CHANGE; lot *= 2) {
                 int n = Math.min(lot, rest);
                 int worth = n * value;
                 for (int sum = amount; sum >= worth; sum--) {

@@ -116,20 +116,26 @@ public final class BooksTest {
             house.pay(place);
             house.start(place, 0);
         }
-        long[] digests = new long[800];
-        for (int time = 1; time < 800; time++) {
+        long[] digests = new long[801];
+        for (int time = 1; time <= 800; time++) {
             house.minute(1);
             digests[time] = house.digest();
+            if (time % 20 == 0) {
+                goBackAndReturn(house, digests, Math.min(time - 1, time % 300 + 1));
+            }
         }
         CHECK.due("37 runs", house.count(5), 60);
-        for (int n : new int[] {1, 7, 99, 300}) {
-            int time = house.count(0) - n;
-            CHECK.due("37 back(" + n + ")", house.back(n), time);
+        goBackAndReturn(house, digests, 300);
+    }
+
+    /** The same minutes once more must lead to the same states. */
+    private static void goBackAndReturn(WashHouse house, long[] digests, int n) {
+        int then = house.count(0) - n;
+        CHECK.due("37 back(" + n + ")", house.back(n), then);
+        CHECK.due("37 digest of " + then, house.digest(), digests[then]);
+        for (int time = then + 1; time <= then + n; time++) {
+            house.minute(1);
             CHECK.due("37 digest of " + time, house.digest(), digests[time]);
-            for (int more = 1; more <= 300 && time + more < 800; more++) {
-                house.minute(1);
-                CHECK.due("37 digest of " + (time + more), house.digest(), digests[time + more]);
-            }
         }
     }
 

@@ -9,6 +9,7 @@ public final class LoadsTest {
         put();
         putOrder();
         fetch();
+        whatStaysInside();
         about();
         tickets();
         share();
@@ -70,6 +71,14 @@ public final class LoadsTest {
             fetch(-1) = -1; fetch(0) = -1; load(0, 1, 0); fetch(0) = -22; fetch(1) = -1; machine(7, 0, 5, 0); put(7, 0) = 1
             pay(7); program(0, 2); start(7, 0) = 1; fetch(0) = -27; about(0, 3) = 7; minute(2); fetch(0) = 7; about(0, 3) = -2; told(7, 6) = 0
             fetch(0) = -22; load(0, 1, 0); put(7, 1) = 1; breaks(7, 1); minute(1); fetch(1) = 7; told(7, 4) = 4; count(3) = 2
+            """);
+    }
+
+    private static void whatStaysInside() {
+        CHECK.run("23 what stays inside keeps its weight and colour", """
+            machine(0, 0, 100, 0); load(0, 10, 1); load(0, 20, 2); load(0, 30, 3); load(0, 51, 4); load(0, 50, 3); put(0, 0); put(0, 1); put(0, 2) = 3
+            fetch(0) = 0; put(0, 3) = -31; put(0, 4) = 3; fetch(1) = 0; told(0, 6) = 2; mix(2, 5, false); load(0, 1, 5); put(0, 5) = 3
+            mix(3, 6, false); load(0, 1, 6); put(0, 6) = -30; fetch(2) = 0; put(0, 6) = -30; fetch(4) = 0; put(0, 6) = 2; about(5, 3) = 0; about(2, 3) = -2
             """);
     }
 

@@ -78,6 +78,9 @@ public final class MachinesTest {
             machine(0, 0, 10, 2); load(0, 1, 0); put(0, 0); remove(0) = -27; fetch(0); tube(0, 1, 0)
             coin(0, 0, 1) = 1; remove(0) = -27; refund(0) = 1; remove(0) = 0
             """);
+        CHECK.run("4 neighbours stay", """
+            machine(0, 0, 5, 0); machine(1, 4, 6, 0); machine(2, 2, 7, 0); remove(1) = 4; told(0, 1) = 5; told(2, 1) = 7; told(2, 0) = 2; told(1, 0) = -21
+            """);
         CHECK.run("4 what goes with a machine", """
             machine(0, 4, 10, 0); drum(0, 10); breaks(0, 3); load(0, 1, 0); put(0, 0); pay(0); program(0, 1); start(0, 0)
             remove(0) = -27; minute(1); pay(0) = 0; fetch(0) = 0; book(0, 0) = 1; remove(0) = 4

@@ -4,10 +4,12 @@ public final class MoneyTest {
 
     public static void main(String[] args) {
         tube();
+        leastCredit();
         coin();
         pay();
         change();
         changeAndCreditOfOthers();
+        changeOfAllTubes();
         changeBounds();
         refund();
         given();
@@ -25,6 +27,12 @@ public final class MoneyTest {
             machine(0, 0, 5, 5); coin(0, 0, 1) = 7; tube(2, 2, 2) = -3; tube(0, 7, 2) = -3; pay(0) = -29; tube(2, 2, 2) = 1
             coin(0, 0, 1); tube(3, 3, 3) = -3; refund(0) = 7; tube(3, 3, 3) = 1; coin(0, 0, 1) = 7; pay(0) = 2; tube(3, 4, 3) = 1
             count(7) = 21; count(8) = 16; count(9) = 5
+            """);
+    }
+
+    private static void leastCredit() {
+        CHECK.run("13 a single coin is credit too", """
+            tube(0, 1, 0); machine(59, 0, 5, 5); coin(59, 0, 1) = 1; tube(1, 2, 0) = -3; remove(59) = -27; refund(59) = 1; tube(1, 2, 0) = 1
             """);
     }
 
@@ -84,6 +92,19 @@ public final class MoneyTest {
             machine(0, 0, 5, 1); machine(1, 0, 5, 1); machine(59, 0, 5, 1); tube(0, 1, 1); tube(1, 4, 0)
             coin(59, 0, 2) = 2; coins(0, 1) = 3; coin(0, 1, 1) = 4; pay(0) = -29; credit(59) = 2; coins(0, 1) = 3
             coin(0, 0, 2) = 2; pay(0) = 1; coins(0, 1) = 4; pay(59) = 1; coins(0, 1) = 3; coin(1, 1, 1); pay(1) = 3; coins(0, 1) = 0
+            """);
+    }
+
+    private static void changeOfAllTubes() {
+        CHECK.run("15 not the credit of place 0", """
+            machine(0, 0, 5, 1); machine(1, 0, 5, 1); tube(0, 1, 0); tube(1, 2, 0); coin(0, 0, 1) = 1; coin(1, 1, 1) = 2; pay(1) = -29; pay(0) = 0
+            coin(1, 1, 1) = 2; pay(1) = 1; coins(0, 1) = 0
+            """);
+        CHECK.run("15 twelve tubes, the least one too", """
+            tube(0, 4, 1); tube(1, 8, 1); tube(2, 16, 1); tube(3, 32, 1); tube(4, 2, 1); tube(5, 64, 1); tube(6, 128, 1); tube(7, 1, 1); tube(8, 600, 0)
+            tube(9, 700, 1); tube(10, 800, 1); tube(11, 900, 1); machine(0, 0, 5, 345); coin(0, 8, 1) = 600; pay(0) = 255
+            given(7) = 1; given(4) = 1; given(0) = 1; given(1) = 1; given(2) = 1; given(3) = 1; given(5) = 1; given(6) = 1; given(8) = 0; given(9) = 0
+            coins(7, 1) = 0; coins(6, 1) = 0; coins(8, 1) = 1
             """);
     }
 

@@ -4,6 +4,7 @@ public final class ProgramsTest {
 
     public static void main(String[] args) {
         program();
+        shorterPrograms();
         takeOut();
         step();
         minutes();
@@ -17,6 +18,9 @@ public final class ProgramsTest {
             program(0, 0) = 1; minutes(0) = 0; program(39, 30) = 1; minutes(39) = 30; count(2) = 2
             step(39, 29, 0, 200) = 1; minutes(39) = 229; program(39, -1) = -33; program(39, 31) = -2; minutes(39) = 229
             program(39, 30) = 1; minutes(39) = 30; program(39, 2) = 1; minutes(39) = 2
+            """);
+        CHECK.run("9 neighbours stay", """
+            program(1, 2); step(1, 0, 0, 9); program(0, 30) = 1; program(2, 30) = 1; step(0, 29, 0, 50); minutes(1) = 10; minutes(0) = 79; count(2) = 3
             """);
         CHECK.run("9 each step is a rest", """
             machine(0, 3, 5, 0); load(0, 1, 0); put(0, 0); pay(0); program(0, 2) = 1; start(0, 0) = 1
@@ -34,6 +38,14 @@ public final class ProgramsTest {
             machine(0, 0, 5, 0); load(0, 1, 0); put(0, 0); pay(0); program(0, 2); step(0, 0, 0, 2); start(0, 0) = 1
             takeOut(0) = 1; left(0) = 3; minute(1); told(0, 5) = 10; program(0, 5); step(0, 1, 3, 9); left(0) = 2
             minute(1); told(0, 5) = 20; minute(1); left(0) = 0; book(0, 0) = 3
+            """);
+    }
+
+    private static void shorterPrograms() {
+        CHECK.run("9 a shorter run behind a longer one", """
+            machine(0, 0, 5, 0); load(0, 1, 0); put(0, 0); pay(0); program(0, 4); step(0, 1, 1, 50); start(0, 0) = 1; minute(2); stop(0) = 51
+            pay(0); program(0, 1); step(0, 0, 0, 2); start(0, 0) = 1; left(0) = 2; minute(1); told(0, 5) = 10; left(0) = 1; minute(1)
+            left(0) = 0; told(0, 3) = 1; count(5) = 0
             """);
     }
 

@@ -163,7 +163,7 @@ public final class RunsTest {
 
     private static void bound() {
         CHECK.run("32 bound", """
-            bound(-1, 0, 0) = -2; bound(0, 10001, 0) = -2; bound(0, 0, -1) = -2; bound(10001, 0, 0) = -2; used(3) = 100
+            bound(-1, 0, 0) = -2; bound(0, 10001, 0) = -2; bound(0, 0, -1) = -2; bound(10001, 0, 0) = -2; bound(0, 0, 10001) = -2; bound(0, -1, 0) = -2; bound(10000, 0, 10000) = 1; bound(100, 100, 100); used(3) = 100
             bound(0, 10000, 7) = 1; used(3) = 0; used(4) = 10000; used(5) = 7; bound(1, 2, 3) = 1; used(3) = 1; used(4) = 2; used(5) = 3; bound(90, 90, 90)
             machine(0, 0, 5, 0); load(0, 1, 0); put(0, 0); pay(0); program(0, 1); step(0, 0, 2, 1); start(0, 0) = -25; bound(80, 80, 80) = 1
             minute(1); step(0, 0, 4, 1); start(0, 0) = 1; bound(1, 1, 1) = -3; bound(1, 1, -1) = -2; minute(2); bound(1, 1, 1) = -3; used(3) = 80
