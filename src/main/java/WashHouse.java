@@ -563,9 +563,7 @@ public final class WashHouse {
             write(place, RUN_STEPS + i, cells.get(stepCell(p, i)));
         }
         write(place, STEPS, length);
-        write(place, STEP_AT, 0);
         write(place, STEP_LEFT, length == 0 ? 0 : minutesOf(read(place, RUN_STEPS)));
-        write(place, WAITED, 0);
         write(place, OPEN, 0);
         write(place, LAMP, GOES);
         grow(place, BEGUN, 1);

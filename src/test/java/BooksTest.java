@@ -123,8 +123,12 @@ public final class BooksTest {
             if (time % 20 == 0) {
                 goBackAndReturn(house, digests, Math.min(time - 1, time % 300 + 1));
             }
+            if (time % 80 == 0) {
+                goBackOneByOne(house, digests);
+            }
         }
         CHECK.due("37 runs", house.count(5), 60);
+        goBackOneByOne(house, digests);
         goBackAndReturn(house, digests, 300);
     }
 
@@ -134,6 +138,19 @@ public final class BooksTest {
         CHECK.due("37 back(" + n + ")", house.back(n), then);
         CHECK.due("37 digest of " + then, house.digest(), digests[then]);
         for (int time = then + 1; time <= then + n; time++) {
+            house.minute(1);
+            CHECK.due("37 digest of " + time, house.digest(), digests[time]);
+        }
+    }
+
+    private static void goBackOneByOne(WashHouse house, long[] digests) {
+        int from = house.count(0);
+        int least = Math.max(1, from - 300);
+        for (int then = from - 1; then >= least; then--) {
+            CHECK.due("37 back(1)", house.back(1), then);
+            CHECK.due("37 digest of " + then, house.digest(), digests[then]);
+        }
+        for (int time = least + 1; time <= from; time++) {
             house.minute(1);
             CHECK.due("37 digest of " + time, house.digest(), digests[time]);
         }
