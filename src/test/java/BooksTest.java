@@ -67,7 +67,7 @@ public final class BooksTest {
         CHECK.run("37 all of the state comes back", """
             machine(0, 4, 5, 1); drum(0, 6); machine(1, 2, 5, 0); program(0, 2); step(0, 0, 0, 2); load(0, 4, 1); put(0, 0); tube(0, 1, 5)
             coin(0, 0, 1); pay(0); coin(1, 0, 2); mix(1, 2, false); bound(50, 51, 52); start(0, 0) = 1; breaks(1, 9); minute(1)
-            remove(0); stop(0); fetch(0); remove(0); machine(0, 3, 9, 9); refund(1); tube(0, 2, 9); mix(1, 2, true); program(0, 9); program(5, 5)
+            remove(0) = -27; stop(0); fetch(0); remove(0); machine(0, 3, 9, 9); refund(1); tube(0, 2, 9); mix(1, 2, true); program(0, 9); program(5, 5)
             takeOut(0); breaks(1, 0); load(1, 1, 1); remove(1); minute(4); back(4) = 1
             told(0, 0) = 4; told(0, 1) = 11; told(0, 2) = 1; told(0, 3) = 0; told(0, 4) = 2; told(0, 5) = 20; told(0, 6) = 1; told(0, 7) = 1; told(0, 8) = 2
             left(0) = 2; minutes(0) = 3; minutes(5) = -23; about(0, 3) = 0; about(1, 0) = -1; coins(0, 0) = 1; coins(0, 1) = 8; credit(1) = 2

@@ -210,7 +210,7 @@ public final class MachinesTest {
 
     private static void touchesOfBanks() {
         CHECK.run("8 touches of banks and their drums", """
-            machine(0, 4, 0, 0); pay(0); touches(0, 0) = 1; drum(0, 5); pay(0); touches(0, 0) = 3; drum(0, 5); drum(0, 5)
+            machine(0, 4, 0, 0); pay(0); touches(0, 0) = 1; drum(0, 5); pay(0) = -3; touches(0, 0) = 3; drum(0, 5); drum(0, 5)
             mend(0); touches(0, 0) = 7; touches(0, 1) = 7; load(0, 1, 0); put(0, 0) = 1; touches(0, 0) = 11
             program(0, 1); start(0, 0) = 1; touches(0, 0) = 15; fetch(0) = -27; touches(0, 0) = 19
             minute(1); touches(0, 0) = 23; touches(0, 1) = 23; breaks(0, 1); minute(1); touches(0, 0) = 27; touches(0, 1) = 27
