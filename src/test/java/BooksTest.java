@@ -102,7 +102,8 @@ public final class BooksTest {
             """);
     }
 
-    private static void aHouseFullOfRuns() {
+    /** Sixty runs that wait for one another: 332 calls of the 512 that an object is used for. */
+    private static WashHouse fullHouse() {
         WashHouse house = new WashHouse();
         house.bound(400, 130, 150);
         house.program(0, 30);
@@ -116,43 +117,52 @@ public final class BooksTest {
             house.pay(place);
             house.start(place, 0);
         }
-        long[] digests = new long[801];
-        for (int time = 1; time <= 800; time++) {
-            house.minute(1);
-            digests[time] = house.digest();
-            if (time % 20 == 0) {
-                goBackAndReturn(house, digests, Math.min(time - 1, time % 300 + 1));
-            }
-            if (time % 80 == 0) {
-                goBackOneByOne(house, digests);
+        return house;
+    }
+
+    private static WashHouse fullHouseAt(int time) {
+        WashHouse house = fullHouse();
+        for (int t = 0; t + 60 <= time; t += 60) {
+            house.minute(60);
+        }
+        return house;
+    }
+
+    private static void aHouseFullOfRuns() {
+        long[] digests = new long[661];
+        for (int from = 0; from < 660; from += 60) {
+            WashHouse house = fullHouseAt(from);
+            for (int time = from + 1; time <= from + 60; time++) {
+                CHECK.due("37 minute", house.minute(1), time);
+                digests[time] = house.digest();
             }
         }
-        CHECK.due("37 runs", house.count(5), 60);
-        goBackOneByOne(house, digests);
-        goBackAndReturn(house, digests, 300);
+        for (int time : new int[] {120, 300, 360, 600, 660}) {
+            for (int n : new int[] {1, 2, 59, 60, 61, 119, 180, 241, 299, 300}) {
+                if (n < time) {
+                    goBackAndReturn(fullHouseAt(time), digests, time, n);
+                }
+            }
+            goBackOneByOne(fullHouseAt(time), digests, time);
+        }
     }
 
     /** The same minutes once more must lead to the same states. */
-    private static void goBackAndReturn(WashHouse house, long[] digests, int n) {
-        int then = house.count(0) - n;
+    private static void goBackAndReturn(WashHouse house, long[] digests, int time, int n) {
+        int then = time - n;
+        CHECK.due("37 runs", house.count(5), 60);
         CHECK.due("37 back(" + n + ")", house.back(n), then);
         CHECK.due("37 digest of " + then, house.digest(), digests[then]);
-        for (int time = then + 1; time <= then + n; time++) {
-            house.minute(1);
-            CHECK.due("37 digest of " + time, house.digest(), digests[time]);
+        for (int t = then + 1; t <= Math.min(time, then + 60); t++) {
+            CHECK.due("37 minute", house.minute(1), t);
+            CHECK.due("37 digest of " + t, house.digest(), digests[t]);
         }
     }
 
-    private static void goBackOneByOne(WashHouse house, long[] digests) {
-        int from = house.count(0);
-        int least = Math.max(1, from - 300);
-        for (int then = from - 1; then >= least; then--) {
+    private static void goBackOneByOne(WashHouse house, long[] digests, int time) {
+        for (int then = time - 1; then >= time - 80; then--) {
             CHECK.due("37 back(1)", house.back(1), then);
             CHECK.due("37 digest of " + then, house.digest(), digests[then]);
-        }
-        for (int time = least + 1; time <= from; time++) {
-            house.minute(1);
-            CHECK.due("37 digest of " + time, house.digest(), digests[time]);
         }
     }
 

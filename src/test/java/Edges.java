@@ -19,6 +19,15 @@ final class Edges {
         check.due("the document, " + part + ": \"" + sentence + "\"", doc.says(part, sentence) ? 1 : 0, 1);
     }
 
+    /** A call once for each number from 0 up to n, which stands for #. */
+    static String each(String call, int n) {
+        StringBuilder calls = new StringBuilder();
+        for (int i = 0; i < n; i++) {
+            calls.append(call.replace("#", String.valueOf(i)));
+        }
+        return calls.toString();
+    }
+
     Check check() {
         return check;
     }

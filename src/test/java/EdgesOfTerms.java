@@ -29,6 +29,7 @@ final class EdgesOfTerms {
     static void hold(Edges edges) {
         manyCalls(edges);
         greatNumbers(edges);
+        everythingAtOnce(edges);
         unknown(edges);
         outside(edges);
         orderOfMachines(edges);
@@ -66,6 +67,44 @@ final class EdgesOfTerms {
                 + "load(0, 20000, 0);".repeat(7) + "put(0, 0); put(0, 1); put(0, 2); put(0, 3); put(0, 4); put(0, 5) = 6; put(0, 6) = -31; share(5, 5) = 3333");
         edges.says("Terms", "quotients are cut", """
             machine(0, 4, 1, 0); drum(0, 1); drum(0, 1); load(0, 2, 0); put(0, 0) = 1; share(0, 0) = 1; share(0, 1) = 1; share(0, 2) = 0
+            """);
+    }
+
+    /** A full house: whatever stands beside another thing leaves it as it is. */
+    private static void everythingAtOnce(Edges edges) {
+        StringBuilder made = new StringBuilder();
+        StringBuilder seen = new StringBuilder();
+        for (int p = 0; p < 40; p++) {
+            made.append("program(P, 30); step(P, 29, 0, M);".replace("P", "" + p).replace("M", "" + (p + 1)));
+            seen.append("minutes(" + p + ") = " + (p + 30) + ";");
+        }
+        for (int place = 0; place < 60; place++) {
+            made.append("machine(" + place + ", " + place % 4 + ", " + (place + 1) + ", 7);");
+            seen.append("told(" + place + ", 1) = " + (place + 1) + ";");
+        }
+        for (int k = 0; k < 12; k++) {
+            made.append("tube(" + k + ", " + (k + 1) + ", " + (k + 100) + ");");
+            seen.append("coins(K, 0) = V; coins(K, 1) = N;".replace("K", "" + k).replace("V", "" + (k + 1)).replace("N", "" + (k + 100)));
+        }
+        for (int load = 0; load < 80; load++) {
+            made.append("load(" + (load + 3) % 10 + ", " + (load + 1) + ", " + load % 7 + ");");
+            seen.append("about(" + load + ", 1) = " + (load + 1) + ";");
+        }
+        for (int a = 0; a < 10; a++) {
+            made.append("mix(" + a + ", " + (a + 1) % 10 + ", false) = 1;");
+        }
+        seen.append("coin(59, 11, 1) = 12; coin(0, 0, 1) = 1; refund(59) = 12; refund(0) = 1; coin(59, 11, 2) = 24; coin(0, 11, 1) = 12;");
+        edges.says("4", "LOADS 0 .. 499, as they come,", made + seen.toString() + """
+            count(1) = 60; count(2) = 40; count(3) = 80; used(3) = 100; mix(0, 1, false) = 0; mix(0, 2, false) = 1; count(6) = 8408
+            """);
+        StringBuilder loads = new StringBuilder();
+        for (int load = 0; load < 420; load++) {
+            loads.append("load(0, " + (load + 1) + ", 9);");
+        }
+        edges.says("4", "LOADS 0 .. 499, as they come,", "machine(59, 4, 5, 6); machine(0, 0, 7, 8); program(39, 30); program(0, 30); tube(0, 4, 5); mix(0, 9, false); mix(8, 9, false); bound(1, 2, 3);" + loads + """
+            told(59, 0) = 4; told(59, 1) = 5; told(59, 2) = 6; told(0, 1) = 7; minutes(39) = 30; minutes(0) = 30; minutes(38) = -23; coins(0, 0) = 4
+            coins(0, 1) = 5; used(3) = 1; used(5) = 3; about(0, 1) = 1; about(419, 1) = 420; about(210, 1) = 211; about(419, 4) = 420
+            mix(9, 0, true) = 0; mix(9, 8, true) = 0; mix(8, 7, true) = 1; credit(0) = 0; credit(59) = 0; book(59, 8) = 0; left(0) = 0; count(7) = 0
             """);
     }
 
@@ -138,7 +177,9 @@ final class EdgesOfTerms {
 
     private static void orderOfLoads(Edges edges) {
         String sentence = "Of several refusals the first one here";
-        edges.says("Terms", sentence, "load(0, 1, 0);".repeat(500) + "load(10, 1, 0) = -2; load(0, 20001, 0) = -2; load(0, 1, 10) = -2; load(0, 1, 0) = -4; about(500, 5) = -1");
+        edges.says("Terms", sentence, "load(0, 1, 0);".repeat(500) + """
+            load(10, 1, 0) = -2; load(0, 20001, 0) = -2; load(0, 1, 10) = -2; load(0, 1, 0) = -4; about(500, 5) = -1
+            """);
         edges.says("Terms", "then FINDINGS, of several the first as told", """
             load(0, 2, 0); put(60, 1) = -1; put(60, 0) = -1; put(0, 1) = -1; put(0, 0) = -21; machine(0, 0, 5, 0); put(0, 0) = 1; put(1, 0) = -21
             machine(1, 4, 0, 0); put(1, 0) = -22; breaks(0, 1); breaks(1, 1); minute(1); put(0, 0) = -22; put(1, 0) = -22; fetch(0); put(1, 0) = -22
@@ -149,7 +190,8 @@ final class EdgesOfTerms {
             pay(0); program(0, 1); start(0, 0) = 1; put(0, 1) = -27; put(0, 2) = -27; minute(1); breaks(0, 1); minute(1); put(0, 1) = -27
             """);
         edges.says("Terms", "then FINDINGS, of several the first as told", """
-            share(0, 9) = -1; load(0, 3, 0); share(0, -1) = -22; share(0, 9) = -22; machine(0, 0, 10, 0); put(0, 0); share(0, 9) = -25; share(0, -1) = -25
+            share(0, 9) = -1; load(0, 3, 0); share(0, -1) = -22; share(0, 9) = -22; machine(0, 0, 10, 0); put(0, 0); share(0, 9) = -25
+            share(0, -1) = -25
             """);
     }
 
@@ -162,12 +204,14 @@ final class EdgesOfTerms {
             start(0, 2) = -23; start(0, 0) = -25; start(0, 1) = -32; breaks(0, 1); minute(1); start(0, 2) = -27; start(0, 0) = -27; start(0, 40) = -1
             """);
         edges.says("Terms", sentence, """
-            machine(0, 0, 5, 1); breaks(0, 1); minute(1); program(0, 1); start(0, 0) = -27; start(0, 1) = -27; mend(0); start(0, 1) = -23; start(0, 0) = -22
+            machine(0, 0, 5, 1); breaks(0, 1); minute(1); program(0, 1); start(0, 0) = -27; start(0, 1) = -27; mend(0); start(0, 1) = -23
+            start(0, 0) = -22
             """);
         edges.says("Terms", "STATE, FULL (as told)", """
-            stop(0) = -21; pay(0) = -21; machine(0, 0, 1, 0); stop(0) = -3; stop(60) = -1; bound(10001, 0, 0) = -2; program(0, 1); load(0, 1, 0); put(0, 0); pay(0)
-            start(0, 0) = 1; bound(10001, 0, 0) = -2; bound(0, -1, 0) = -2; bound(0, 0, 0) = -3; back(301) = -2; back(0) = -2; back(300) = -3
-            breaks(60, 1001) = -1; breaks(1, 1001) = -2; breaks(1, 1) = -21; cost(60, -1) = -1; cost(0, 1000001) = -2; cost(0, 1) = -26
+            stop(0) = -21; pay(0) = -21; machine(0, 0, 1, 0); stop(0) = -3; stop(60) = -1; bound(10001, 0, 0) = -2; program(0, 1); load(0, 1, 0)
+            put(0, 0); pay(0); start(0, 0) = 1; bound(10001, 0, 0) = -2; bound(0, -1, 0) = -2; bound(0, 0, 0) = -3; back(301) = -2; back(0) = -2
+            back(300) = -3; breaks(60, 1001) = -1; breaks(1, 1001) = -2; breaks(1, 1) = -21; cost(60, -1) = -1; cost(0, 1000001) = -2
+            cost(0, 1) = -26
             """);
     }
 
@@ -175,10 +219,10 @@ final class EdgesOfTerms {
         String sentence = "answered as -20 less them: 1 NO MACHINE, 2 NO LOAD, 3 NO PROGRAM, 4 BEHIND THE END, 5 NOT THAT MACHINE, 6 NOUGHT,"
                 + " 7 BUSY, 8 MONEY, 9 CHANGE, 10 MIX, 11 ROOM, 12 BOUND, 13 SIZE.";
         edges.says("Terms", sentence, """
-            left(0) = -21; load(0, 9, 0); fetch(0) = -22; minutes(0) = -23; program(0, 1); step(0, 1, 0, 1) = -24; machine(0, 3, 9, 1); drum(0, 1) = -25
-            cost(0, 1) = -26; put(0, 0); remove(0) = -27; pay(0) = -28; tube(0, 2, 0); coin(0, 0, 1); pay(0) = -29; load(0, 1, 1); fetch(0)
-            put(0, 1); mix(0, 1, false); load(0, 1, 0); put(0, 2) = -30; load(0, 9, 1); put(0, 3) = -31; tube(0, 1, 0); coin(0, 0, 1); pay(0) = 0
-            bound(100, 100, 0); start(0, 0) = -32; program(0, -1) = -33; count(12) = 13
+            left(0) = -21; load(0, 9, 0); fetch(0) = -22; minutes(0) = -23; program(0, 1); step(0, 1, 0, 1) = -24; machine(0, 3, 9, 1)
+            drum(0, 1) = -25; cost(0, 1) = -26; put(0, 0); remove(0) = -27; pay(0) = -28; tube(0, 2, 0); coin(0, 0, 1); pay(0) = -29; load(0, 1, 1)
+            fetch(0); put(0, 1); mix(0, 1, false); load(0, 1, 0); put(0, 2) = -30; load(0, 9, 1); put(0, 3) = -31; tube(0, 1, 0); coin(0, 0, 1)
+            pay(0) = 0; bound(100, 100, 0); start(0, 0) = -32; program(0, -1) = -33; count(12) = 13
             """);
     }
 
@@ -188,14 +232,15 @@ final class EdgesOfTerms {
             machine(1, 4, 20000, 0); drum(1, 20000); load(0, 20000, 0); put(1, 1); share(1, 0) = 10000; share(1, 1) = 10000
             """);
         edges.says("Terms", "what is left goes, one each, to those with the greatest remainders", """
-            machine(0, 4, 10, 0); drum(0, 17); drum(0, 13); load(0, 3, 0); put(0, 0); share(0, 0) = 1; share(0, 1) = 1; share(0, 2) = 1
-            load(0, 1, 0); put(0, 1); share(1, 0) = 0; share(1, 1) = 1; share(1, 2) = 0; load(0, 2, 0); put(0, 2); share(2, 0) = 0; share(2, 1) = 1; share(2, 2) = 1
+            machine(0, 4, 10, 0); drum(0, 17); drum(0, 13); load(0, 3, 0); put(0, 0); share(0, 0) = 1; share(0, 1) = 1; share(0, 2) = 1; load(0, 1, 0)
+            put(0, 1); share(1, 0) = 0; share(1, 1) = 1; share(1, 2) = 0; load(0, 2, 0); put(0, 2); share(2, 0) = 0; share(2, 1) = 1; share(2, 2) = 1
             load(0, 5, 0); put(0, 3); share(3, 0) = 1; share(3, 1) = 2; share(3, 2) = 2
             """);
         edges.says("Terms", "of like ones to the lesser numbers first.", """
-            machine(0, 4, 7, 0); drum(0, 7); drum(0, 7); drum(0, 7); drum(0, 7); drum(0, 7); load(0, 1, 0); put(0, 0); share(0, 0) = 1; share(0, 1) = 0; share(0, 5) = 0
-            load(0, 5, 0); put(0, 1); share(1, 0) = 1; share(1, 4) = 1; share(1, 5) = 0; load(0, 6, 0); put(0, 2); share(2, 0) = 1; share(2, 5) = 1
-            load(0, 9, 0); put(0, 3); share(3, 0) = 2; share(3, 1) = 2; share(3, 2) = 2; share(3, 3) = 1; share(3, 4) = 1; share(3, 5) = 1
+            machine(0, 4, 7, 0); drum(0, 7); drum(0, 7); drum(0, 7); drum(0, 7); drum(0, 7); load(0, 1, 0); put(0, 0); share(0, 0) = 1
+            share(0, 1) = 0; share(0, 5) = 0; load(0, 5, 0); put(0, 1); share(1, 0) = 1; share(1, 4) = 1; share(1, 5) = 0; load(0, 6, 0); put(0, 2)
+            share(2, 0) = 1; share(2, 5) = 1; load(0, 9, 0); put(0, 3); share(3, 0) = 2; share(3, 1) = 2; share(3, 2) = 2; share(3, 3) = 1
+            share(3, 4) = 1; share(3, 5) = 1
             """);
     }
 

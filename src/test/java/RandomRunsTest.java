@@ -1,13 +1,18 @@
 import java.lang.reflect.Method;
 import java.util.ArrayList;
 import java.util.Arrays;
+import java.util.Collections;
 import java.util.Comparator;
 import java.util.List;
 import java.util.Random;
 
 /** Runs of random calls on WashHouse and on PlainHouse, which must answer alike. */
 public final class RandomRunsTest {
-    private static final int CALLS = 300;
+    /** What later calls on one object answer is free. */
+    private static final int MOST_CALLS = 512;
+
+    /** A wash, the longest row of calls that is begun as a whole, takes fewer. */
+    private static final int LONGEST_ROW = 20;
 
     /** What a run calls most. */
     private static final String[] THEMES = {"", "machine put load pay start minute", "coin pay tube refund",
@@ -33,7 +38,7 @@ public final class RandomRunsTest {
     }
 
     public static void main(String[] args) throws Exception {
-        int runs = args.length > 0 ? Integer.parseInt(args[0]) : 700;
+        int runs = args.length > 0 ? Integer.parseInt(args[0]) : 3000;
         Check check = new Check();
         for (int seed = 0; seed < runs; seed++) {
             new RandomRunsTest(seed, check).run();
@@ -46,16 +51,15 @@ public final class RandomRunsTest {
         if (random.nextInt(4) > 0) {
             setUp();
         }
-        for (int i = 0; i < CALLS; i++) {
+        int until = LONGEST_ROW + random.nextInt(MOST_CALLS - 2 * LONGEST_ROW);
+        while (calls < until) {
             if (random.nextInt(washesEvery) == 0) {
                 wash(place());
             }
             Method method = methods.get(random.nextInt(methods.size()));
             act(method.getName(), values(method));
-            if (i % 16 == 15) {
-                lookRound();
-            }
         }
+        lookRound();
     }
 
     /** One call on both houses, and what it answered. */
@@ -104,34 +108,43 @@ public final class RandomRunsTest {
         act("start", place, p);
     }
 
-    /** What no later call may happen to ask. */
-    private void lookRound() {
-        String at = at() + "behind it ";
-        check.due(at + "digest()", house.digest(), plain.digest());
-        for (int what = 0; what <= 12; what++) {
-            check.due(at + "count(" + what + ")", house.count(what), plain.count(what));
-        }
-        for (int what = 0; what <= 30; what++) {
-            check.due(at + "trace(" + what + ")", house.trace(what), plain.trace(what));
-        }
+    /** All that can be asked, in any order, for as many calls as are left. */
+    private void lookRound() throws Exception {
+        List<Object[]> questions = new ArrayList<>();
+        questions.add(new Object[] {"digest"});
+        questions.add(new Object[] {"status"});
+        addQuestions(questions, "count", 13);
+        addQuestions(questions, "trace", 31);
+        addQuestions(questions, "used", 6);
+        addQuestions(questions, "given", 12);
+        addQuestions(questions, "minutes", 5);
         for (int place = 0; place <= places; place++) {
-            check.due(at + "touches(" + place + ", 0)", house.touches(place, 0), plain.touches(place, 0));
-            check.due(at + "touches(" + place + ", 1)", house.touches(place, 1), plain.touches(place, 1));
-            for (int what = 0; what <= 12; what++) {
-                check.due(at + "told(" + place + ", " + what + ")", house.told(place, what), plain.told(place, what));
-                check.due(at + "book(" + place + ", " + what + ")", house.book(place, what), plain.book(place, what));
-            }
-            check.due(at + "cost(" + place + ", 99991)", house.cost(place, 99991), plain.cost(place, 99991));
+            addQuestions(questions, "touches", 2, place);
+            addQuestions(questions, "told", 13, place);
+            addQuestions(questions, "book", 9, place);
+            questions.add(new Object[] {"cost", place, 99991});
         }
         for (int k = 0; k < 12; k++) {
-            check.due(at + "given(" + k + ")", house.given(k), plain.given(k));
-            check.due(at + "coins(" + k + ", 1)", house.coins(k, 1), plain.coins(k, 1));
+            addQuestions(questions, "coins", 2, k);
         }
         for (int load = 0; load < plain.count(3); load++) {
-            check.due(at + "about(" + load + ", 4)", house.about(load, 4), plain.about(load, 4));
+            addQuestions(questions, "about", 5, load);
         }
-        for (int what = 0; what <= 5; what++) {
-            check.due(at + "used(" + what + ")", house.used(what), plain.used(what));
+        Collections.shuffle(questions, random);
+        for (int i = 0; i < questions.size() && calls < MOST_CALLS; i++) {
+            Object[] question = questions.get(i);
+            act((String) question[0], Arrays.copyOfRange(question, 1, question.length));
+        }
+    }
+
+    /** A call with the numbers told, and behind them one from 0 up to n. */
+    private static void addQuestions(List<Object[]> questions, String name, int n, Object... numbers) {
+        for (int i = 0; i < n; i++) {
+            Object[] question = new Object[numbers.length + 2];
+            question[0] = name;
+            System.arraycopy(numbers, 0, question, 1, numbers.length);
+            question[numbers.length + 1] = i;
+            questions.add(question);
         }
     }
 
