@@ -109,6 +109,9 @@ final class EdgesOfPrograms {
         edges.says("Promise 12", "MINUTES of all its STEPS.", longest + """
             minutes(0) = 6000; step(0, 29, 0, 1); minutes(0) = 5801; step(0, 0, 0, 1); minutes(0) = 5602; program(0, 0); minutes(0) = 0
             """);
+        // Minutes that pass leave a program alone.
+        edges.says("Promise 12", "MINUTES of all its STEPS.", "program(0, 30); program(39, 30);" + Edges.each("step(0, #, 0, 5); step(39, #, 0, 7);", 30)
+                + "minute(4); minute(1); minutes(0) = 150; minute(2); minutes(0) = 150; minutes(39) = 210; minute(60); minutes(0) = 150; minutes(39) = 210; minutes(1) = -23");
         edges.says("Promise 12", "UNKNOWN", "program(0, 1); program(39, 2); minutes(-1) = -1; minutes(0) = 1; minutes(39) = 2; minutes(40) = -1");
         edges.says("Promise 12", "NO PROGRAM.", """
             minutes(0) = -23; status() = 3; program(0, 0); minutes(0) = 0; takeOut(0); minutes(0) = -23; minutes(39) = -23; count(12) = 3

@@ -30,6 +30,7 @@ final class EdgesOfTerms {
         manyCalls(edges);
         greatNumbers(edges);
         everythingAtOnce(edges);
+        moneyBesideAllLoads(edges);
         unknown(edges);
         outside(edges);
         orderOfMachines(edges);
@@ -93,9 +94,10 @@ final class EdgesOfTerms {
         for (int a = 0; a < 10; a++) {
             made.append("mix(" + a + ", " + (a + 1) % 10 + ", false) = 1;");
         }
-        seen.append("coin(59, 11, 1) = 12; coin(0, 0, 1) = 1; refund(59) = 12; refund(0) = 1; coin(59, 11, 2) = 24; coin(0, 11, 1) = 12;");
+        seen.append("coin(59, 11, 1) = 12; coin(0, 0, 1) = 1; refund(59) = 12; refund(0) = 1; coin(59, 11, 2) = 24; coin(0, 11, 1) = 12;"
+                + "minute(9); pay(59) = 17; given(11) = 1; given(4) = 1; credit(59) = 0; credit(0) = 12; minutes(0) = 30; minutes(39) = 69;");
         edges.says("4", "LOADS 0 .. 499, as they come,", made + seen.toString() + """
-            count(1) = 60; count(2) = 40; count(3) = 80; used(3) = 100; mix(0, 1, false) = 0; mix(0, 2, false) = 1; count(6) = 8408
+            count(1) = 60; count(2) = 40; count(3) = 80; used(3) = 100; mix(0, 1, false) = 0; mix(0, 2, false) = 1; count(6) = 8391
             """);
         StringBuilder loads = new StringBuilder();
         for (int load = 0; load < 420; load++) {
@@ -105,6 +107,13 @@ final class EdgesOfTerms {
             told(59, 0) = 4; told(59, 1) = 5; told(59, 2) = 6; told(0, 1) = 7; minutes(39) = 30; minutes(0) = 30; minutes(38) = -23; coins(0, 0) = 4
             coins(0, 1) = 5; used(3) = 1; used(5) = 3; about(0, 1) = 1; about(419, 1) = 420; about(210, 1) = 211; about(419, 4) = 420
             mix(9, 0, true) = 0; mix(9, 8, true) = 0; mix(8, 7, true) = 1; credit(0) = 0; credit(59) = 0; book(59, 8) = 0; left(0) = 0; count(7) = 0
+            """);
+    }
+
+    private static void moneyBesideAllLoads(Edges edges) {
+        edges.says("4", "LOADS 0 .. 499, as they come,", "tube(0, 5, 0); machine(0, 0, 1, 5); coin(0, 0, 1); pay(0);" + "load(9, 20000, 9);".repeat(500) + """
+            credit(0) = 0; tube(11, 500, 1) = 1; count(6) = 505; coin(0, 0, 1) = 5; refund(0) = 5; coins(0, 1) = 1; about(499, 4) = 500
+            about(0, 0) = 9
             """);
     }
 
