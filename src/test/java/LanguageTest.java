@@ -4,7 +4,6 @@ import java.lang.reflect.Method;
 import java.lang.reflect.Modifier;
 import java.nio.file.Files;
 import java.nio.file.Path;
-import java.util.Arrays;
 import java.util.List;
 import java.util.Set;
 import java.util.TreeSet;
@@ -13,16 +12,10 @@ import java.util.regex.Pattern;
 
 /** The rules of ../shared/LANGUAGE.md that can be seen from outside, by their numbers. */
 public final class LanguageTest {
-    private static final String FACE = "machine(int,int,int,int) drum(int,int) remove(int) told(int,int) wish(int,int,int) "
-            + "trace(int) touches(int,int) program(int,int) takeOut(int) step(int,int,int,int) minutes(int) tube(int,int,int) "
-            + "coin(int,int,int) pay(int) refund(int) given(int) coins(int,int) credit(int) load(int,int,int) "
-            + "mix(int,int,boolean) put(int,int) fetch(int) about(int,int) share(int,int) start(int,int) minute(int) "
-            + "left(int) stop(int) breaks(int,int) mend(int) bound(int,int,int) used(int) book(int,int) cost(int,int) "
-            + "count(int) back(int) digest() status()";
     private static final Check CHECK = new Check();
 
     public static void main(String[] args) throws IOException {
-        face();
+        privateNames();
         classes();
         source(Files.readString(Path.of("src/main/java/WashHouse.java")));
         CHECK.end();
@@ -32,29 +25,15 @@ public final class LanguageTest {
         CHECK.due("rule " + rule, holds ? 1 : 0, 1);
     }
 
-    private static void face() {
-        Set<String> due = new TreeSet<>(Arrays.asList(FACE.split(" ")));
-        Set<String> seen = new TreeSet<>();
+    private static void privateNames() {
         Set<String> publicNames = new TreeSet<>();
+        for (Method method : WashHouse.class.getMethods()) {
+            publicNames.add(method.getName());
+        }
         for (Method method : WashHouse.class.getDeclaredMethods()) {
-            String types = Arrays.toString(method.getParameterTypes()).replaceAll("[\\[\\] ]", "");
-            if (!Modifier.isPrivate(method.getModifiers())) {
-                seen.add(method.getName() + "(" + types + ")");
-                publicNames.add(method.getName());
-            }
+            boolean isPrivate = Modifier.isPrivate(method.getModifiers());
+            yes("1: private " + method.getName(), !isPrivate || !publicNames.contains(method.getName()));
         }
-        yes("1: the face " + seen, seen.equals(due));
-        for (Method method : WashHouse.class.getDeclaredMethods()) {
-            yes("1: private " + method.getName(), !Modifier.isPrivate(method.getModifiers()) || !publicNames.contains(method.getName()));
-            Class<?> answer = method.getName().equals("digest") ? long.class : int.class;
-            yes("1: " + method.getName(), Modifier.isPrivate(method.getModifiers()) || method.getReturnType() == answer);
-        }
-        List<String> constants = List.of("UNKNOWN", "OUTSIDE", "STATE", "FULL", "NONE");
-        for (Field field : WashHouse.class.getDeclaredFields()) {
-            yes("1: " + field.getName(), Modifier.isPrivate(field.getModifiers()) != constants.contains(field.getName()));
-        }
-        yes("1: public and final", Modifier.isPublic(WashHouse.class.getModifiers()) && Modifier.isFinal(WashHouse.class.getModifiers()));
-        yes("1: one constructor", WashHouse.class.getDeclaredConstructors().length == 1 && WashHouse.class.getConstructors().length == 1);
     }
 
     private static void classes() {
@@ -90,6 +69,8 @@ public final class LanguageTest {
             yes("4, 6, 13: " + word, !Pattern.compile("\\b" + word + "\\b").matcher(code).find());
         }
         yes("2: method references", !code.contains("::"));
+        yes("2: a class without a name", !Pattern.compile("\\bnew \\w+\\([^)]*\\) *\\{").matcher(code).find());
+        yes("10: texts", !code.contains("\""));
         for (String line : code.split("\n")) {
             yes("2: a lambda, " + line.strip(), !line.contains("->") || line.strip().matches("(case .*|default) ->.*"));
         }
